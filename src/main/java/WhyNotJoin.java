@@ -536,12 +536,14 @@ public final class WhyNotJoin {
         }
 
         boolean accepts(int index, int a, int b, int c) {
-            return holds(index) && compare(valueOf(index, a, b, c), operators[index], constants[index]);
+            return holds(index)
+                    && compare(columnValue(stages[index], columns[index], a, b, c), operators[index], constants[index]);
         }
 
         /** Tells what the filter would accept if this were its constant. */
         boolean acceptsWith(int constant, int index, int a, int b, int c) {
-            return holds(index) && compare(valueOf(index, a, b, c), operators[index], constant);
+            return holds(index)
+                    && compare(columnValue(stages[index], columns[index], a, b, c), operators[index], constant);
         }
 
         /** The set of filters that do not accept the rows (a, b) and (b, c), bit i for filter i. */
@@ -582,13 +584,8 @@ public final class WhyNotJoin {
             }
         }
 
-        /** The value of the filter's column. */
-        private int valueOf(int index, int a, int b, int c) {
-            if (!holds(index)) {
-                return NONE;
-            }
-            int column = columns[index];
-            switch (stages[index]) {
+        private static int columnValue(int stage, int column, int a, int b, int c) {
+            switch (stage) {
                 case LEFT_STAGE:
                     return column == 0 ? a : b;
                 case RIGHT_STAGE:
@@ -1023,13 +1020,16 @@ public final class WhyNotJoin {
             size = 0;
             position = 0;
             skipSpaces();
-            do {
+            for (int command = 0; command < MAX_COMMANDS; command++) {
                 if (!readCommand()) {
                     return false;
                 }
                 skipSpaces();
-            } while (position < text.length && size < MAX_COMMANDS);
-            return true;
+                if (position >= text.length) {
+                    return true;
+                }
+            }
+            return false;
         }
 
         private void skipSpaces() {

@@ -937,7 +937,7 @@ public final class PromiseTest {
         due("positions", texts.length, positions.length);
         WhyNotJoin x = new WhyNotJoin();
         for (int i = 0; i < texts.length; i++) {
-            due("runScript() of '" + texts[i] + "'", -10 - positions[i], script(x, texts[i]));
+            due("runScript() of '" + texts[i] + "'", -10 - positions[i], script(new WhyNotJoin(), texts[i]));
         }
         due("a syntax error behind a good command: nothing is executed", -10 - 5, script(x, "l1 2;?"));
         due("a syntax error is told before a failing command", -10 - 4, script(x, "x99;?"));

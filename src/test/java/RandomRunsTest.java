@@ -5,6 +5,7 @@ import java.util.Random;
 /** Long runs of calls, made from fixed seeds, on WhyNotJoin and on the Model: every answer must be the same. */
 public final class RandomRunsTest {
     private static final int RUNS = 1500;
+    /** With the bytes of one last command still under the 512 calls for which an object is promised. */
     private static final int CALLS = 480;
     private static final int[] EXTREMES = {
         Integer.MIN_VALUE, Integer.MIN_VALUE + 1, -10001, -100, -10, -9, -1, 10, 18, 19, 100, 127, 128, 1 << 30,
@@ -37,7 +38,7 @@ public final class RandomRunsTest {
 
     private void run(Checks checks, int seed) {
         boolean scripts = seed % 3 == 0;
-        for (int i = 0; i < CALLS; i++) {
+        for (int i = 0; calls.size() < CALLS; i++) {
             long[] answers = scripts && random.nextInt(4) != 0 ? scriptCall() : call(random.nextInt(33));
             String last = calls.get(calls.size() - 1);
             if (!checks.same("run " + seed + ", call " + i + ", " + last, answers[0], answers[1])) {
