@@ -31,26 +31,6 @@ public final class PromiseTest {
 
     // ---- help for the tests
 
-    /** The left table (1,2) (1,3) (4,2) and the right table (2,5) (3,6) (2,6). */
-    private static WhyNotJoin sample() {
-        WhyNotJoin x = new WhyNotJoin();
-        x.addLeft(1, 2);
-        x.addLeft(1, 3);
-        x.addLeft(4, 2);
-        x.addRight(2, 5);
-        x.addRight(3, 6);
-        x.addRight(2, 6);
-        return x;
-    }
-
-    private static int script(WhyNotJoin x, String text) {
-        x.clearText();
-        for (int i = 0; i < text.length(); i++) {
-            x.append(text.charAt(i));
-        }
-        return x.runScript();
-    }
-
     private static void errorsAre(String when, WhyNotJoin x, int invalid, int rejected, int full) {
         due("errorCount(0) " + when, invalid, x.errorCount(0));
         due("errorCount(1) " + when, rejected, x.errorCount(1));
@@ -63,7 +43,7 @@ public final class PromiseTest {
 
     /** A call that takes two values answers INVALID for each wrong one, counts it and changes nothing else. */
     private static void refusesWrongPairs(String name, PairCall call) {
-        WhyNotJoin x = sample();
+        WhyNotJoin x = States.sample();
         int count = 0;
         for (int wrong : NOT_VALUES) {
             due(name + "(" + wrong + ", 2)", INVALID, call.on(x, wrong, 2));
@@ -84,7 +64,7 @@ public final class PromiseTest {
 
     /** A call that takes an index of something that is there answers INVALID for every other one. */
     private static void refusesWrongIndexes(String name, int size, IndexCall call) {
-        WhyNotJoin x = sample();
+        WhyNotJoin x = States.sample();
         x.addFilter(0, 0, 0, 9);
         x.addFilter(1, 0, 0, 9);
         int[] wrong = {Integer.MIN_VALUE, -1, size, size + 1, 10, Integer.MAX_VALUE};
@@ -162,7 +142,7 @@ public final class PromiseTest {
     }
 
     private static void removeLeft() {
-        WhyNotJoin x = sample();
+        WhyNotJoin x = States.sample();
         due("removeLeft(0)", 2, x.removeLeft(0));
         due("leftRow(0)", 13, x.leftRow(0));
         due("leftRow(1)", 42, x.leftRow(1));
@@ -180,7 +160,7 @@ public final class PromiseTest {
     }
 
     private static void removeRight() {
-        WhyNotJoin x = sample();
+        WhyNotJoin x = States.sample();
         due("removeRight(1)", 2, x.removeRight(1));
         due("rightRow(0)", 25, x.rightRow(0));
         due("rightRow(1)", 26, x.rightRow(1));
@@ -195,7 +175,7 @@ public final class PromiseTest {
     }
 
     private static void leftRow() {
-        WhyNotJoin x = sample();
+        WhyNotJoin x = States.sample();
         due("leftRow(0)", 12, x.leftRow(0));
         due("leftRow(1)", 13, x.leftRow(1));
         due("leftRow(2)", 42, x.leftRow(2));
@@ -210,7 +190,7 @@ public final class PromiseTest {
     }
 
     private static void rightRow() {
-        WhyNotJoin x = sample();
+        WhyNotJoin x = States.sample();
         due("rightRow(0)", 25, x.rightRow(0));
         due("rightRow(1)", 36, x.rightRow(1));
         due("rightRow(2)", 26, x.rightRow(2));
@@ -354,7 +334,7 @@ public final class PromiseTest {
     }
 
     private static void acceptedBy() {
-        WhyNotJoin x = sample();
+        WhyNotJoin x = States.sample();
         x.addFilter(0, 1, 0, 2);
         x.addFilter(1, 1, 1, 6);
         x.addFilter(2, 0, 0, -4);
@@ -373,7 +353,7 @@ public final class PromiseTest {
     }
 
     private static void answerCount() {
-        WhyNotJoin x = sample();
+        WhyNotJoin x = States.sample();
         due("answerCount(), (1,6) counting once", 4, x.answerCount());
         x.addFilter(0, 1, 1, 3);
         due("answerCount() with b >= 3", 1, x.answerCount());
@@ -417,7 +397,7 @@ public final class PromiseTest {
     }
 
     private static void matchCount() {
-        WhyNotJoin x = sample();
+        WhyNotJoin x = States.sample();
         due("matchCount(1, 6)", 2, x.matchCount(1, 6));
         due("matchCount(1, 5)", 1, x.matchCount(1, 5));
         due("matchCount(4, 6)", 1, x.matchCount(4, 6));
@@ -521,7 +501,7 @@ public final class PromiseTest {
     }
 
     private static void filtersToRemove() {
-        WhyNotJoin x = sample();
+        WhyNotJoin x = States.sample();
         due("filtersToRemove(1, 6), present", 0, x.filtersToRemove(1, 6));
         due("filtersToRemove(4, 9), never", NONE, x.filtersToRemove(4, 9));
         due("filtersToRemove(0, 5), never", NONE, x.filtersToRemove(0, 5));
@@ -553,7 +533,7 @@ public final class PromiseTest {
     }
 
     private static void repairedConstant() {
-        WhyNotJoin x = sample();
+        WhyNotJoin x = States.sample();
         x.addFilter(0, 1, 1, 9);
         due("repairedConstant(1, 6, 0), the nearest of 2 and 3", 3, x.repairedConstant(1, 6, 0));
         due("repairedConstant(1, 5, 0)", 2, x.repairedConstant(1, 5, 0));
@@ -622,7 +602,7 @@ public final class PromiseTest {
     }
 
     private static void missingRows() {
-        WhyNotJoin x = sample();
+        WhyNotJoin x = States.sample();
         due("missingRows(1, 6), present", 0, x.missingRows(1, 6));
         due("missingRows(4, 7), only the right row", 1, x.missingRows(4, 7));
         due("missingRows(0, 5), only the left row", 1, x.missingRows(0, 5));
@@ -643,7 +623,7 @@ public final class PromiseTest {
     }
 
     private static void missingB() {
-        WhyNotJoin x = sample();
+        WhyNotJoin x = States.sample();
         due("missingB(1, 6), present", NONE, x.missingB(1, 6));
         due("missingB(1, 7), the smallest of 2 and 3", 2, x.missingB(1, 7));
         due("missingB(0, 5)", 2, x.missingB(0, 5));
@@ -715,7 +695,7 @@ public final class PromiseTest {
     }
 
     private static void loosen() {
-        WhyNotJoin x = sample();
+        WhyNotJoin x = States.sample();
         x.addFilter(0, 1, 3, 2);
         x.addFilter(2, 2, 3, 3);
         x.addFilter(1, 0, 3, 2);
@@ -777,7 +757,7 @@ public final class PromiseTest {
     }
 
     private static void satisfiedWishes() {
-        WhyNotJoin x = sample();
+        WhyNotJoin x = States.sample();
         due("satisfiedWishes() of none", 0, x.satisfiedWishes());
         x.addWish(1, 6);
         x.addWish(4, 5);
@@ -796,7 +776,7 @@ public final class PromiseTest {
     }
 
     private static void filtersToRemoveForWishes() {
-        WhyNotJoin x = sample();
+        WhyNotJoin x = States.sample();
         x.addFilter(0, 0, 3, 4);
         x.addFilter(1, 1, 3, 5);
         x.addFilter(2, 2, 3, 2);
@@ -875,7 +855,7 @@ public final class PromiseTest {
 
     private static void runScript() {
         WhyNotJoin x = new WhyNotJoin();
-        due("a script of every command", 7, script(x, " l 1 02;r2 5 ; f 2 0 0 -3;f0 0 0 9;x 1;w1 5;e; "));
+        due("a script of every command", 7, States.script(x, " l 1 02;r2 5 ; f 2 0 0 -3;f0 0 0 9;x 1;w1 5;e; "));
         due("leftRow(0)", 12, x.leftRow(0));
         due("rightRow(0)", 25, x.rightRow(0));
         due("filterCount()", 1, x.filterCount());
@@ -885,32 +865,32 @@ public final class PromiseTest {
         due("undo() of the whole script", 0, x.undo());
         due("leftRow(0) after undo", NONE, x.leftRow(0));
         due("filterCount() after undo", 0, x.filterCount());
-        due("w1 5;", 1, script(x, "w1 5;"));
+        due("w1 5;", 1, States.script(x, "w1 5;"));
         due("addWish(1, 5), it is there", REJECTED, x.addWish(1, 5));
         x.undo();
-        due("the longest script", 60, script(x, "e;".repeat(60)));
+        due("the longest script", 60, States.script(x, "e;".repeat(60)));
         due("undo(), a script is one step", 0, x.undo());
         failingCommands();
         syntaxErrors();
     }
 
     private static void failingCommands() {
-        WhyNotJoin x = sample();
-        due("l2 2;l1 2;, the second is there", -1001, script(x, "l2 2;l1 2;"));
+        WhyNotJoin x = States.sample();
+        due("l2 2;l1 2;, the second is there", -1001, States.script(x, "l2 2;l1 2;"));
         due("leftRow(3), the first is taken back", NONE, x.leftRow(3));
-        due("r2 5;", -1000, script(x, "r2 5;"));
-        due("r10 5;", -1000, script(x, "r10 5;"));
-        due("f0 0 0 10;", -1000, script(x, "f0 0 0 10;"));
-        due("f2 0 0 -10;", -1000, script(x, "f2 0 0 -10;"));
-        due("f3 0 0 0;", -1000, script(x, "f3 0 0 0;"));
-        due("f2 0 0 18;f2 0 0 19;", -1001, script(x, "f2 0 0 18;f2 0 0 19;"));
-        due("x0;", -1000, script(x, "x0;"));
-        due("f0 0 0 0;x0;x0;", -1002, script(x, "f0 0 0 0;x0;x0;"));
-        due("w1 1;w1 1;", -1001, script(x, "w1 1;w1 1;"));
-        due("five wishes", -1004, script(x, "w1 1;w1 2;w1 3;w1 4;w1 5;"));
-        due("seven filters", -1006, script(x, "f0 0 0 0;f0 0 0 0;f0 0 0 0;f0 0 0 0;f0 0 0 0;f0 0 0 0;f0 0 0 0;"));
+        due("r2 5;", -1000, States.script(x, "r2 5;"));
+        due("r10 5;", -1000, States.script(x, "r10 5;"));
+        due("f0 0 0 10;", -1000, States.script(x, "f0 0 0 10;"));
+        due("f2 0 0 -10;", -1000, States.script(x, "f2 0 0 -10;"));
+        due("f3 0 0 0;", -1000, States.script(x, "f3 0 0 0;"));
+        due("f2 0 0 18;f2 0 0 19;", -1001, States.script(x, "f2 0 0 18;f2 0 0 19;"));
+        due("x0;", -1000, States.script(x, "x0;"));
+        due("f0 0 0 0;x0;x0;", -1002, States.script(x, "f0 0 0 0;x0;x0;"));
+        due("w1 1;w1 1;", -1001, States.script(x, "w1 1;w1 1;"));
+        due("five wishes", -1004, States.script(x, "w1 1;w1 2;w1 3;w1 4;w1 5;"));
+        due("seven filters", -1006, States.script(x, "f0 0 0 0;f0 0 0 0;f0 0 0 0;f0 0 0 0;f0 0 0 0;f0 0 0 0;f0 0 0 0;"));
         due("filterCount()", 0, x.filterCount());
-        due("a full left table", -1007, script(x, "l0 0;l0 1;l0 2;l0 3;l0 4;l0 5;l0 6;l0 7;"));
+        due("a full left table", -1007, States.script(x, "l0 0;l0 1;l0 2;l0 3;l0 4;l0 5;l0 6;l0 7;"));
         due("wishes are taken back", 0, x.clearWishes());
         errorsAre("after failing scripts", x, 0, 0, 0);
         due("undo() of clearWishes()", 4, x.undo());
@@ -937,21 +917,21 @@ public final class PromiseTest {
         due("positions", texts.length, positions.length);
         WhyNotJoin x = new WhyNotJoin();
         for (int i = 0; i < texts.length; i++) {
-            due("runScript() of '" + texts[i] + "'", -10 - positions[i], script(new WhyNotJoin(), texts[i]));
+            due("runScript() of '" + texts[i] + "'", -10 - positions[i], States.script(new WhyNotJoin(), texts[i]));
         }
-        due("a syntax error behind a good command: nothing is executed", -10 - 5, script(x, "l1 2;?"));
-        due("a syntax error is told before a failing command", -10 - 4, script(x, "x99;?"));
+        due("a syntax error behind a good command: nothing is executed", -10 - 5, States.script(x, "l1 2;?"));
+        due("a syntax error is told before a failing command", -10 - 4, States.script(x, "x99;?"));
         due("leftRow(0)", NONE, x.leftRow(0));
         errorsAre("after syntax errors", x, 0, 0, 0);
         due("undo()", REJECTED, x.undo());
-        due("too early at the length of a full buffer", -130, script(x, " ".repeat(120)));
-        due("no space is needed before a minus", 1, script(x, "f2 0 0-3;"));
+        due("too early at the length of a full buffer", -130, States.script(x, " ".repeat(120)));
+        due("no space is needed before a minus", 1, States.script(x, "f2 0 0-3;"));
         due("constant(0)", -3, x.constant(0));
-        due("spaces wherever they may stand", 2, script(x, "  f  2  0  0  -03  ;  e  ;  "));
-        due("-0", 1, script(x, "f0 0 0 -0;"));
+        due("spaces wherever they may stand", 2, States.script(x, "  f  2  0  0  -03  ;  e  ;  "));
+        due("-0", 1, States.script(x, "f0 0 0 -0;"));
         due("constant(2)", 0, x.constant(2));
-        due("-00 and 00", 1, script(x, "f00 01 03 -00;"));
-        due("two digits", 1, script(x, "f2 0 0 18;"));
+        due("-00 and 00", 1, States.script(x, "f00 01 03 -00;"));
+        due("two digits", 1, States.script(x, "f2 0 0 18;"));
         due("constant(4)", 18, x.constant(4));
     }
 
@@ -985,7 +965,7 @@ public final class PromiseTest {
         x.addLeft(10, 10);
         x.addRight(0, 0);
         x.loosen(1, 1);
-        script(x, "l1 1;l1 1;");
+        States.script(x, "l1 1;l1 1;");
         for (int left = 4; left >= 0; left--) {
             due("undo() after failed calls", left, x.undo());
             due("rightRow of the last row", 11 * left, x.rightRow(left));
@@ -1013,7 +993,7 @@ public final class PromiseTest {
         x.undo();
         due("constant(5)", 8, x.constant(5));
         x.clearWishes();
-        script(x, "w5 5;w6 6;w7 7;w8 9;");
+        States.script(x, "w5 5;w6 6;w7 7;w8 9;");
         x.undo();
         x.undo();
         due("addWish(9, 8), it is there again", REJECTED, x.addWish(9, 8));
@@ -1065,10 +1045,10 @@ public final class PromiseTest {
 
     /** A state with a filter, a wish and four saved states; the text is as long as that of undoable(x, 11). */
     private static WhyNotJoin beforeUndoable() {
-        WhyNotJoin x = sample();
+        WhyNotJoin x = States.sample();
         x.addFilter(0, 0, 3, 4);
         x.addWish(4, 6);
-        script(x, "l8 8;w8 8;x0;f2 2 3 9;e;");
+        States.script(x, "l8 8;w8 8;x0;f2 2 3 9;e;");
         x.undo();
         return x;
     }
@@ -1086,7 +1066,7 @@ public final class PromiseTest {
             case 8: return x.loosen(4, 6);
             case 9: return x.addWish(1, 1);
             case 10: return x.clearWishes();
-            default: return script(x, "l7 7;r7 7;w7 7;f1 1 1 1;");
+            default: return States.script(x, "l7 7;r7 7;w7 7;f1 1 1 1;");
         }
     }
 
@@ -1111,17 +1091,9 @@ public final class PromiseTest {
         errorsAre("after NONE", x, 4, 1, 1);
     }
 
-    private static long hash(long... values) {
-        long h = 18084;
-        for (long v : values) {
-            h = 31 * h + v;
-        }
-        return h;
-    }
-
     private static void digest() {
         WhyNotJoin x = new WhyNotJoin();
-        due("digest() of a new object", hash(0, 0, 0, 0, 0, 0, 0, 0, 0, 0, 0), x.digest());
+        due("digest() of a new object", Hash.of(0, 0, 0, 0, 0, 0, 0, 0, 0, 0, 0), x.digest());
         x.addLeft(1, 2);
         x.addLeft(1, 3);
         x.addRight(2, 5);
@@ -1133,7 +1105,7 @@ public final class PromiseTest {
         x.undo();
         x.addWish(1, 4);
         x.errorCount(7);
-        due("digest()", hash(1, 0, 0, 1, 5, 2, 12, 13, 1, 25, 2, 2, 0, 1, -3, 0, 0, 1, 3, 9, 2, 0,
+        due("digest()", Hash.of(1, 0, 0, 1, 5, 2, 12, 13, 1, 25, 2, 2, 0, 1, -3, 0, 0, 1, 3, 9, 2, 0,
                 2, 15, 10, 1, NONE, NONE, 14, 1, NONE, 1, 2, NONE), x.digest());
         due("digest() again", x.digest(), x.digest());
         digestOfSixFilters();
@@ -1141,11 +1113,11 @@ public final class PromiseTest {
         x.clearWishes();
         x.addWish(1, 5);
         x.clearText();
-        due("digest()", hash(1, 0, 0, 0, 5, 2, 12, 13, 1, 25, 1, 0, 1, 3, 9, 2, 1, 15,
+        due("digest()", Hash.of(1, 0, 0, 0, 5, 2, 12, 13, 1, 25, 1, 0, 1, 3, 9, 2, 1, 15,
                 1, 15, 9, 0, 0, NONE, 0), x.digest());
         x.addWish(1, 5);
         x.addFilter(1, 0, 2, 9);
-        due("digest()", hash(1, 1, 0, 0, 5, 2, 12, 13, 1, 25, 2, 0, 1, 3, 9, 2, 1, 0, 2, 9, 0, 0,
+        due("digest()", Hash.of(1, 1, 0, 0, 5, 2, 12, 13, 1, 25, 2, 0, 1, 3, 9, 2, 1, 0, 2, 9, 0, 0,
                 1, 15, 11, 2, NONE, NONE, 2), x.digest());
     }
 
@@ -1156,7 +1128,7 @@ public final class PromiseTest {
         for (int i = 0; i < 6; i++) {
             x.addFilter(0, 0, 0, i);
         }
-        due("digest() of six filters", hash(0, 0, 0, 0, 5, 1, 0, 1, 0, 6, 0, 0, 0, 0, 1, 0, 0, 0, 1, 1, 0, 0, 0, 2, 1,
+        due("digest() of six filters", Hash.of(0, 0, 0, 0, 5, 1, 0, 1, 0, 6, 0, 0, 0, 0, 1, 0, 0, 0, 1, 1, 0, 0, 0, 2, 1,
                 0, 0, 0, 3, 1, 0, 0, 0, 4, 1, 0, 0, 0, 5, 1, 1, 0, 0, 0), x.digest());
     }
 }

@@ -180,6 +180,12 @@ final class WishSentences extends SentenceGroup {
         });
         sentence("The empty set (0) is returned if there are no wishes", () -> {
             onlyAnswers(0, "of a new object", States::fresh, WhyNotJoin::filtersToRemoveForWishes);
+            for (int count = 1; count <= 4; count++) {
+                WhyNotJoin y = wishes(count).make();
+                due("with " + count + " wishes that are never in the result", NONE, y.filtersToRemoveForWishes());
+                y.clearWishes();
+                due("after they were cleared", 0, y.filtersToRemoveForWishes());
+            }
             onlyAnswers(0, "with rows and filters", () -> {
                 WhyNotJoin x = States.full();
                 x.clearWishes();
@@ -212,6 +218,15 @@ final class WishSentences extends SentenceGroup {
             x.addWish(1, 2);
             x.addWish(3, 3);
             due("the first of two", NONE, x.filtersToRemoveForWishes());
+            x.clearWishes();
+            x.addWish(3, 3);
+            for (int i = 0; i < 3; i++) {
+                x.addWish(i, i + 1);
+                due("the last of two", NONE, x.filtersToRemoveForWishes());
+                x.undo();
+                due("without it", 0, x.filtersToRemoveForWishes());
+                x.addWish(i, i);
+            }
         });
     }
 
