@@ -74,7 +74,14 @@ public final class FaceTest {
     }
 
     private static void checkNestedClasses(Checks checks) {
+        checks.same("at most 12 classes", true, WhyNotJoin.class.getDeclaredClasses().length < 12);
+        for (Method method : WhyNotJoin.class.getDeclaredMethods()) {
+            checks.same(method + " takes at most 7 parameters", true, method.getParameterCount() <= 7);
+        }
         for (Class<?> nested : WhyNotJoin.class.getDeclaredClasses()) {
+            for (Method method : nested.getDeclaredMethods()) {
+                checks.same(method + " takes at most 7 parameters", true, method.getParameterCount() <= 7);
+            }
             checks.same(nested + " is static", true, Modifier.isStatic(nested.getModifiers()));
             checks.same(nested + " is public", false, Modifier.isPublic(nested.getModifiers()));
             checks.same(nested + " has at most 20 fields", true, nested.getDeclaredFields().length <= 20);
